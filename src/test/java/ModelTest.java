@@ -42,6 +42,9 @@ public final class ModelTest {
         while (pair.calls() < LAST_STEP) {
             if (kind == 7) {
                 text(pair);
+                for (int i = draw(12); i > 0; i--) {
+                    step(pair, draw(4));
+                }
             } else {
                 step(pair, kind);
             }

@@ -824,7 +824,10 @@ public final class PromisesTest {
         is("300 visits", edge.completeAfter(), 300);
         TokenBus later = with(0, 16);
         later.setTimes(60, 1, 20);
-        is("320 visits are too many", later.completeAfter(), NONE);
+        later.run(19);
+        is("301 visits are too many", later.completeAfter(), NONE);
+        later.run(1);
+        is("300 visits are not", later.completeAfter(), 300);
         later.setOn(16, false);
         later.setOn(0, false);
         is("nobody is on", later.completeAfter(), 0);
@@ -884,11 +887,16 @@ public final class PromisesTest {
         bus.give(0, 20, 9);
         bus.run(2);
         bus.addNoise(3, 400);
+        bus.give(4, 2, 2);
+        // What-if calls must leave nothing behind that a text could take over.
+        is("a what-if call", bus.waitOf(1) > 0 ? 1 : 0, 1);
         long before = bus.digest();
         is("parse()", parsed(bus, "s31;m20,0;m1,9;s0;s05;m07,5;"), 6);
         settings(bus, "parsed", 60, 4, 1, 3, 0, 0, 0, NONE, 3);
         counts(bus, "parsed", 0, 0, 0, 0, 0, 0, 0);
         is("the log is empty", bus.logged(), 0);
+        is("no rotation", bus.greatestRotation(), 0);
+        CHECK.isReal("no wait", bus.waits(true), 0.0);
         CHECK.is("no noise is left", bus.isNoisy(5), false);
         station(bus, "parsed", 0, 1, 0, 0, 0, 0, 0, NONE);
         station(bus, "parsed", 5, 1, 0, 5, 5, 1, 0, NONE);
@@ -904,6 +912,17 @@ public final class PromisesTest {
         bus.clearText();
         is("undo() brings all back, with 3 saved states instead of 4", bus.digest(), before - 1);
         CHECK.is("the noise, too", bus.isNoisy(400), true);
+        parsed(bus, "s0;m2,9;m2,1;");
+        is("the message waits for the token", bus.run(1), 24 + 4 + 5 + 1);
+        CHECK.isReal("the greatest wait", bus.waits(true), 26.0);
+        CHECK.isReal("the mean wait", bus.waits(false), 25.0);
+        counts(bus, "the new line", 1, 2, 0, 1, 0, 0, 4);
+        latest(bus, "the new line", 24, 0, 0, 2);
+        is("one visit is logged", bus.logged(), 1);
+        put(bus, "s12;");
+        is("a shorter text behind a longer one", parsed(bus, "s1"), -12);
+        is("nor a sign of it", parsed(bus, "s"), -11);
+        bus.clearText();
         is("no items", bus.parse(), 0);
         settings(bus, "no items", 60, 4, 1, 0, 0, 0, 0, NONE, 0);
         is("eight stations", parsed(bus, "s1;s2;s3;s4;s5;s6;s7;s8;m1,1;"), 9);
@@ -956,6 +975,7 @@ public final class PromisesTest {
         is("all is as it was, but for the number of saved states", bus.digest(), two);
         fails(bus, "undo() of no more", STATE, bus::undo);
         undoesEach();
+        undoesCounts();
         keepsAfterUndo();
     }
 
@@ -975,6 +995,45 @@ public final class PromisesTest {
             CHECK.is("its noises, too", bus.isNoisy(50), false);
             is("but not the text", bus.clearText(), 8);
         }
+    }
+
+    private static void undoesCounts() {
+        TokenBus bus = ringOfThree();
+        bus.give(2, 7, 9);
+        bus.give(2, 3, 9);
+        bus.addNoise(54, 54);
+        bus.run(2);
+        bus.run(1);
+        bus.addNoise(bus.setting(6), bus.setting(6) + 14);
+        long before = bus.digest();
+        double greatest = bus.waits(true);
+        double mean = bus.waits(false);
+        bus.give(0, 1, 9);
+        bus.run(100);
+        CHECK.is("the mean wait has changed", bus.waits(false) != mean, true);
+        bus.undo();
+        bus.undo();
+        is("the counts are back, with 2 saved states instead of 4", bus.digest(), before - 2);
+        CHECK.isReal("the greatest wait is back", bus.waits(true), greatest);
+        CHECK.isReal("the mean wait is back", bus.waits(false), mean);
+        bus.undo();
+        bus.run(1);
+        TokenBus noisy = with(0);
+        noisy.addNoise(24, 24);
+        noisy.addNoise(29, 29);
+        noisy.addStation(8);
+        noisy.undo();
+        CHECK.is("the first noise is back", noisy.isNoisy(24), true);
+        CHECK.is("the second noise is back", noisy.isNoisy(29), true);
+        is("both spoil", noisy.run(1), 24 + 5 + 5 + 1);
+        TokenBus ring = with(0, 7);
+        ring.run(1);
+        ring.setOn(0, false);
+        ring.undo();
+        ring.undo();
+        ring.undo();
+        ring.addStation(3);
+        station(ring, "a place that was used before", 3, 1, 0, 3, 3, 0, 0, NONE);
     }
 
     private static void doUndoable(TokenBus bus, int way) {
