@@ -58,18 +58,11 @@ public final class PromisesTest {
     }
 
     private static TokenBus with(int... addresses) {
-        TokenBus bus = new TokenBus();
-        for (int address : addresses) {
-            bus.addStation(address);
-        }
-        return bus;
+        return Recipes.with(addresses);
     }
 
     private static void put(TokenBus bus, String text) {
-        bus.clearText();
-        for (int i = 0; i < text.length(); i++) {
-            bus.append(text.charAt(i));
-        }
+        Recipes.put(bus, text);
     }
 
     private static int parsed(TokenBus bus, String text) {
@@ -107,41 +100,6 @@ public final class PromisesTest {
         for (int what = 0; what < due.length; what++) {
             is(when + " visit(" + index + ", " + what + ")", bus.visit(index, what), due[what]);
         }
-    }
-
-    /** Stations 0 and 2 in the ring, holder 0, time 39; no polls are due for long. */
-    private static TokenBus ringOfTwo() {
-        TokenBus bus = with(0, 2);
-        bus.setTimes(60, 4, 1);
-        is("three visits", bus.run(3), 39);
-        bus.setTimes(60, 4, 20);
-        return bus;
-    }
-
-    /** The present time is 900000, none of the stations 0 and 1 (off) has sent its message. */
-    private static TokenBus atLastStart() {
-        TokenBus bus = with(0, 1);
-        bus.setOn(1, false);
-        bus.give(1, 1, 0);
-        bus.setTimes(60, 20, 20);
-        bus.addNoise(0, 899000);
-        int time = bus.setting(6);
-        while (time < 898000) {
-            time = bus.run(Math.max(1, Math.min(200, (898000 - time) / 750)));
-        }
-        while (time < 899001) {
-            time = bus.run(1);
-        }
-        bus.setTimes(60, 1, 20);
-        while (time < 899900) {
-            time = bus.run(Math.min(40, 899950 - time));
-        }
-        while (time < 900000) {
-            bus.setTimes(60, 1, (bus.station(0, 5) + 1) % 20 == 0 ? 19 : 20);
-            time = bus.run(1);
-        }
-        is("the last start", time, 900000);
-        return bus;
     }
 
     // ---- promises
@@ -192,7 +150,7 @@ public final class PromisesTest {
     }
 
     private static void p03SetOn() {
-        TokenBus bus = ringOfTwo();
+        TokenBus bus = Recipes.ringOfTwo();
         bus.give(2, 5, 3);
         CHECK.is("setOn(2, true) of one that is on", bus.setOn(2, true), true);
         station(bus, "still in the ring", 2, 1, 1, 0, 3, 1, 1, 33);
@@ -326,7 +284,7 @@ public final class PromisesTest {
         is("lost tokens", ring.count(3), 2);
         is("its rotation counts the making", ring.greatestRotation(), 73);
         // The gap pointer stays when a station comes in so, its next address does not.
-        TokenBus alone = ringOfTwo();
+        TokenBus alone = Recipes.ringOfTwo();
         alone.setOn(2, false);
         alone.setOn(0, false);
         is("nobody is on", alone.run(3), 39);
@@ -481,22 +439,14 @@ public final class PromisesTest {
         is("a poll of nobody is spoilt, too", empty.count(2), 1);
     }
 
-    private static TokenBus ringOfThree() {
-        TokenBus bus = with(0, 2, 4);
-        bus.setTimes(60, 4, 1);
-        is("six visits", bus.run(6), 54);
-        settings(bus, "three", 60, 4, 1, 3, 3, 0, 54, 0, 0);
-        return bus;
-    }
-
     private static void passesOverSilentOnes() {
-        TokenBus bus = ringOfThree();
+        TokenBus bus = Recipes.ringOfThree();
         bus.setOn(2, false);
         is("a poll, three failures, 3, 4", bus.run(1), 54 + 5 + 15 + 5 + 1);
         station(bus, "0", 0, 1, 1, 4, 1, 0, 4, 54);
         is("the holder", bus.setting(7), 4);
         counts(bus, "it had left already", 7, 0, 0, 1, 2, 0, 0);
-        TokenBus noisy = ringOfThree();
+        TokenBus noisy = Recipes.ringOfThree();
         noisy.setOn(2, false);
         noisy.addNoise(79, 79);
         is("the question is spoilt", noisy.run(1), 79 + 5 + 27 * 5);
@@ -504,11 +454,11 @@ public final class PromisesTest {
         is("the holder stays", noisy.setting(7), 0);
         is("4 is in the ring still", noisy.setting(4), 2);
         counts(noisy, "spoilt question", 7, 0, 1, 1, 2, 0, 0);
-        TokenBus once = ringOfTwo();
+        TokenBus once = Recipes.ringOfTwo();
         once.addNoise(39, 39);
         is("the second try", once.run(1), 39 + 5 + 1);
         is("has reached it", once.setting(7), 2);
-        TokenBus twice = ringOfTwo();
+        TokenBus twice = Recipes.ringOfTwo();
         twice.addNoise(39, 44);
         is("the third try", twice.run(1), 39 + 10 + 1);
         is("has reached it, too", twice.setting(7), 2);
@@ -517,7 +467,7 @@ public final class PromisesTest {
     }
 
     private static void dropsAfterThreeFailures() {
-        TokenBus bus = ringOfTwo();
+        TokenBus bus = Recipes.ringOfTwo();
         bus.addNoise(39, 49);
         is("three failures, and 3 to 31", bus.run(1), 39 + 15 + 29 * 5);
         station(bus, "0", 0, 1, 1, 0, 2, 0, 3, 39);
@@ -547,12 +497,12 @@ public final class PromisesTest {
     }
 
     private static void endsAtLastStart() {
-        TokenBus bus = atLastStart();
+        TokenBus bus = Recipes.atLastStart();
         is("run(0) at 900000", bus.run(0), 900000);
         is("waitOf at 900000", bus.waitOf(0), NONE);
         is("completeAfter at 900000", bus.completeAfter(), 0);
         is("leastTarget at 900000", bus.leastTarget(1), 20);
-        bus.setTimes(60, 1, (bus.station(0, 5) + 1) % 20 == 0 ? 19 : 20);
+        bus.setTimes(60, 1, 20);
         is("run(1) at 900000", bus.run(1), 900001);
         fails(bus, "run(0) above 900000", STATE, () -> bus.run(0));
         fails(bus, "run(201) above 900000", ARGUMENT, () -> bus.run(201));
@@ -583,7 +533,7 @@ public final class PromisesTest {
     }
 
     private static void p09Setting() {
-        TokenBus bus = ringOfTwo();
+        TokenBus bus = Recipes.ringOfTwo();
         bus.give(2, 1, 1);
         bus.addStation(31);
         bus.addNoise(4, 5);
@@ -594,7 +544,7 @@ public final class PromisesTest {
     }
 
     private static void p10Station() {
-        TokenBus bus = ringOfTwo();
+        TokenBus bus = Recipes.ringOfTwo();
         bus.give(2, 1, 1);
         station(bus, "all", 0, 1, 1, 2, 2, 0, 2, 30);
         station(bus, "all", 2, 1, 1, 0, 3, 1, 1, 33);
@@ -665,7 +615,7 @@ public final class PromisesTest {
     }
 
     private static void p14Count() {
-        TokenBus bus = ringOfThree();
+        TokenBus bus = Recipes.ringOfThree();
         bus.give(0, 6, 9);
         bus.give(0, 6, 0);
         bus.addNoise(60, 60);
@@ -883,7 +833,7 @@ public final class PromisesTest {
     }
 
     private static void p26Parse() {
-        TokenBus bus = ringOfThree();
+        TokenBus bus = Recipes.ringOfThree();
         bus.give(0, 20, 9);
         bus.run(2);
         bus.addNoise(3, 400);
@@ -981,7 +931,7 @@ public final class PromisesTest {
 
     private static void undoesEach() {
         for (int way = 0; way < 9; way++) {
-            TokenBus bus = ringOfTwo();
+            TokenBus bus = Recipes.ringOfTwo();
             bus.give(0, 3, 2);
             bus.undo();
             bus.give(0, 3, 2);
@@ -998,7 +948,7 @@ public final class PromisesTest {
     }
 
     private static void undoesCounts() {
-        TokenBus bus = ringOfThree();
+        TokenBus bus = Recipes.ringOfThree();
         bus.give(2, 7, 9);
         bus.give(2, 3, 9);
         bus.addNoise(54, 54);
@@ -1107,54 +1057,31 @@ public final class PromisesTest {
             empty = 31 * empty + value;
         }
         is("digest() of a new object", new TokenBus().digest(), empty);
-        TokenBus bus = ringOfThree();
+        is("digest() of a small one", small().digest(), new Hash(PromisesTest::small, 1, 4).value());
+        is("digest() of a long one", grown().digest(), new Hash(PromisesTest::grown, 1, 4).value());
+        is("digest() with fewer saved states", shrunk().digest(), new Hash(PromisesTest::shrunk, 1, 3).value());
+    }
+
+    private static TokenBus small() {
+        TokenBus bus = Recipes.ringOfThree();
         for (int i = 0; i < 12; i++) {
             bus.give(2 * (i % 3), i + 1, (7 * i) % 10);
         }
         bus.addNoise(90, 95);
         bus.append('s');
-        is("digest() of a small one", bus.digest(), hashed(bus, 4));
-        bus.run(50);
-        bus.setOn(4, false);
-        is("digest() of a long one", bus.digest(), hashed(bus, 4));
-        bus.undo();
-        is("digest() with fewer saved states", bus.digest(), hashed(bus, 3));
+        return bus;
     }
 
-    private static long hashed(TokenBus bus, int saved) {
-        int length = bus.clearText();
-        for (int i = 0; i < length; i++) {
-            bus.append('s');
-        }
-        long h = 31L * 3169 + length;
-        for (int what = 0; what <= 8; what++) {
-            h = 31 * h + bus.setting(what);
-        }
-        for (int place = 0; place < bus.setting(3); place++) {
-            int address = bus.addressAt(place);
-            h = 31 * h + address;
-            for (int what = 0; what <= 6; what++) {
-                h = 31 * h + bus.station(address, what);
-            }
-            for (int at = 0; at < bus.station(address, 4); at++) {
-                h = 31 * h + bus.queued(address, at);
-            }
-        }
-        for (int message = 0; message < bus.setting(8); message++) {
-            for (int what = 0; what <= 4; what++) {
-                h = 31 * h + bus.message(message, what);
-            }
-        }
-        for (int what = 0; what <= 6; what++) {
-            h = 31 * h + bus.count(what);
-        }
-        h = 31 * h + bus.greatestRotation();
-        h = 31 * h + bus.logged();
-        for (int index = 0; index < bus.logged(); index++) {
-            for (int what = 0; what <= 3; what++) {
-                h = 31 * h + bus.visit(index, what);
-            }
-        }
-        return 31 * h + saved;
+    private static TokenBus grown() {
+        TokenBus bus = small();
+        bus.run(50);
+        bus.setOn(4, false);
+        return bus;
+    }
+
+    private static TokenBus shrunk() {
+        TokenBus bus = grown();
+        bus.undo();
+        return bus;
     }
 }
