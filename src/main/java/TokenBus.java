@@ -379,7 +379,7 @@ public final class TokenBus {
 
         Table(int rows, int width) {
             this.width = width;
-            this.cells = new int[rows * width];
+            this.cells = new int[Math.max(0, rows * width)];
         }
 
         int at(int row, int column) {

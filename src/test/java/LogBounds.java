@@ -115,6 +115,13 @@ final class LogBounds {
         bus.run(1);
         b.isReal("one wait of 0, greatest", bus.waits(true), 0.0);
         b.isReal("one wait of 0, mean", bus.waits(false), 0.0);
+        TokenBus parsed = Recipes.ringOfThree();
+        Recipes.put(parsed, "s0;");
+        parsed.parse();
+        parsed.run(1);
+        parsed.give(0, 1, 9);
+        parsed.run(1);
+        b.isReal("one wait of 0 behind a text, greatest", parsed.waits(true), 0.0);
         TokenBus three = Recipes.alone(60);
         three.give(0, 1, 9);
         three.give(0, 2, 9);

@@ -16,6 +16,7 @@ final class TextBounds {
         cleared();
         numbersOfItems();
         newLine();
+        newLineBehindQuestions();
         numbersBehindText();
         leastAndGreatestNumbers();
         firstByteThatCannotStand();
@@ -132,6 +133,30 @@ final class TextBounds {
         b.is("a noise may come again", bus.addNoise(3, 3), 1);
         b.is("run(1): 0 makes the token and polls 1", bus.run(1), 6 + 2 + 1);
         b.visit("its first visit", bus, 0, 6, 0, 0, 0);
+    }
+
+    /** What other calls have tried out, and what a wrong text has told, is no part of the new line. */
+    private void newLineBehindQuestions() {
+        b.says(26, "no noises, an empty log and all counts 0");
+        TokenBus bus = Recipes.full();
+        bus.clearText();
+        Recipes.put(bus, "s9;m1,1;m1,1;x");
+        b.is("leastTarget(100)", bus.leastTarget(100), Recipes.full().leastTarget(100));
+        b.is("parse() of a wrong text", bus.parse(), -23);
+        bus.clearText();
+        Recipes.put(bus, "s30;");
+        bus.completeAfter();
+        bus.waitOf(99);
+        b.is("parse()", bus.parse(), 1);
+        TokenBus twin = new TokenBus();
+        Recipes.put(twin, "s30;");
+        twin.addStation(1);
+        twin.addStation(2);
+        twin.setTimes(500, 1, 1);
+        twin.parse();
+        b.is("digest() of a new object with this text", bus.digest(), twin.digest());
+        b.is("isNoisy(0)", bus.isNoisy(0), false);
+        b.isReal("waits(true)", bus.waits(true), 0.0);
     }
 
     private void numbersBehindText() {

@@ -130,6 +130,14 @@ final class WhatIfBounds {
         b.is("one that is on makes the token", off.completeAfter(), 1);
         off.setOn(31, false);
         b.is("all off", off.completeAfter(), 0);
+        TokenBus lowest = Recipes.with(31);
+        lowest.run(1);
+        lowest.addStation(0);
+        b.is("all but the lowest one", lowest.completeAfter(), 2);
+        TokenBus highest = Recipes.with(0);
+        highest.run(1);
+        highest.addStation(1);
+        b.is("all but the highest one", highest.completeAfter(), 2);
         TokenBus ring = Recipes.ringOfThree();
         b.is("all in the ring", ring.completeAfter(), 0);
         ring.loseToken();
