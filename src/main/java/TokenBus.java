@@ -529,7 +529,7 @@ public final class TokenBus {
                     break;
                 }
                 before = follower;
-                follower = follower(follower);
+                follower = table.at(follower, FOLLOWER);
             }
             table.put(added, FOLLOWER, follower);
             if (before == NONE) {
@@ -553,7 +553,7 @@ public final class TokenBus {
             int sent = station.first;
             int wait = begin - table.at(sent, GIVEN);
             table.put(sent, WAIT, wait);
-            station.first = follower(sent);
+            station.first = table.at(sent, FOLLOWER);
             station.waiting--;
             return wait;
         }
@@ -1245,11 +1245,15 @@ public final class TokenBus {
         /** Makes the place of the oldest state free, behind the others. */
         private void dropOldest() {
             Line oldest = stateAt(0);
-            for (int place = 1; place < states.length; place++) {
-                states[place - 1] = states[place];
+            int last = 0;
+            while (last + 1 < states.length) {
+                states[last] = states[last + 1];
+                last++;
             }
-            held = states.length - 1;
-            states[held] = oldest;
+            if (last < states.length) {
+                states[last] = oldest;
+                held = last;
+            }
         }
 
         void restore(Line line) {

@@ -1,12 +1,20 @@
-import java.nio.charset.StandardCharsets;
-import java.nio.file.Files;
-import java.nio.file.Path;
-import java.util.regex.Matcher;
-import java.util.regex.Pattern;
+import com.sun.source.tree.ClassTree;
+import com.sun.source.tree.CompilationUnitTree;
+import com.sun.source.util.JavacTask;
+import com.sun.source.util.Trees;
+import java.io.File;
+import java.util.List;
+import java.util.Map;
+import java.util.Set;
+import java.util.TreeMap;
+import java.util.TreeSet;
+import javax.tools.JavaCompiler;
+import javax.tools.StandardJavaFileManager;
+import javax.tools.ToolProvider;
 
-/** The rules of LANGUAGE.md that can be seen in the text of TokenBus.java, whose path is given. */
+/** The rules of LANGUAGE.md, looked for in what the compiler has read of TokenBus.java, whose path is given. */
 public final class LanguageTest {
-    private static final int MOST_LINES_OF_A_METHOD = 60;
+    private static final int DEEPEST_CALL = 8;
 
     private LanguageTest() {
     }
@@ -14,63 +22,54 @@ public final class LanguageTest {
     public static void main(String[] args) throws Exception {
         Check check = new Check();
         String path = args.length > 0 ? args[0] : "src/main/java/TokenBus.java";
-        String source = new String(Files.readAllBytes(Path.of(path)), StandardCharsets.UTF_8);
-        String code = withoutTextsAndComments(source);
-        absent(check, code, "lambda", "->");
-        absent(check, code, "method reference", "::");
-        absent(check, code, "catching, rule 6 and the page", "\\b(try|catch|finally)\\b");
-        absent(check, code, "words left out", "\\b(synchronized|assert|instanceof|package|protected|volatile)\\b");
-        absent(check, code, "own equals, hashCode, toString", "\\b(equals|hashCode|toString)\\s*\\(");
-        absent(check, code, "clock, randomness, environment",
-                "\\b(Random|nanoTime|currentTimeMillis|Thread|File|Files|getenv|getProperty|println)\\b");
-        absent(check, code, "static state", "static\\s+(?!final\\b)[\\w\\[\\]<>]+\\s+\\w+\\s*(=|;)");
-        absent(check, code, "an import beside the one that is needed", "import\\s+(?!java\\.util\\.NoSuchElementException;)");
-        absent(check, code, "an exception beside those of the document", "throw\\s+new\\s+(?!IllegalArgumentException\\(|"
-                + "IllegalStateException\\(|IndexOutOfBoundsException\\(|NoSuchElementException\\()");
-        absent(check, code, "functions that throw by themselves", "\\w+Exact\\b");
-        absent(check, code, "a loop without an end of its own", "while\\s*\\(\\s*true|for\\s*\\(\\s*;\\s*;");
-        check.is("some twelve classes", number(code, "\\bclass\\s+\\w+") <= 12, true);
-        check.is("parameters, seven at most", number(code, "\\w+\\((\\w[\\w\\[\\]]* \\w+, ){7,}") == 0, true);
-        methodsAreShort(check, code);
+        JavaCompiler compiler = ToolProvider.getSystemJavaCompiler();
+        try (StandardJavaFileManager files = compiler.getStandardFileManager(null, null, null)) {
+            JavacTask task = (JavacTask) compiler.getTask(null, files, null, List.of("-proc:none"), null,
+                    files.getJavaFileObjects(new File(path)));
+            Iterable<? extends CompilationUnitTree> units = task.parse();
+            task.analyze();
+            for (CompilationUnitTree unit : units) {
+                look(check, unit, Trees.instance(task));
+            }
+        }
         check.end();
     }
 
-    private static void absent(Check check, String code, String what, String pattern) {
-        Matcher found = Pattern.compile(pattern).matcher(code);
-        check.same(what, found.find() ? "at: " + around(code, found.start()) : "absent", "absent");
+    private static void look(Check check, CompilationUnitTree unit, Trees trees) {
+        check.is("rule 1: one public class in the file", unit.getTypeDecls().size(), 1);
+        check.is("rule 1: no package line", unit.getPackageName() == null, true);
+        ClassTree face = (ClassTree) unit.getTypeDecls().get(0);
+        Rules rules = new Rules(check, unit, trees, face);
+        rules.scan(unit, null);
+        check.is("rule 11: some twelve classes", rules.classes <= 12, true);
+        check.same("page: divisors that are no constants, each tested by its method", rules.divisors,
+                new TreeSet<>(Set.of("(double)counts.sent", "(double)line.time", "line.gapCount")));
+        check.is("methods with calls", rules.calls.size() > 50, true);
+        calls(check, rules.calls);
     }
 
-    private static String around(String code, int at) {
-        return code.substring(at, Math.min(code.length(), at + 60)).replace('\n', ' ');
-    }
-
-    private static int number(String code, String pattern) {
-        Matcher found = Pattern.compile(pattern).matcher(code);
-        int number = 0;
-        while (found.find()) {
-            number++;
-        }
-        return number;
-    }
-
-    private static void methodsAreShort(Check check, String code) {
-        String[] lines = code.split("\n");
-        Pattern head = Pattern.compile("^( {4}| {8})(\\w.*)?\\w+\\(.*\\{$");
-        for (int i = 0; i < lines.length; i++) {
-            Matcher found = head.matcher(lines[i]);
-            if (!found.matches()) {
-                continue;
-            }
-            int end = i;
-            while (end < lines.length && !lines[end].equals(found.group(1) + "}")) {
-                end++;
-            }
-            check.is("short: " + lines[i].trim(), end - i <= MOST_LINES_OF_A_METHOD, true);
+    /** Rule 8, no method comes back to itself; rule 11, calls go at most eight deep. */
+    private static void calls(Check check, Map<String, Set<String>> calls) {
+        Map<String, Integer> depths = new TreeMap<>();
+        for (String method : calls.keySet()) {
+            int depth = depth(calls, depths, method, new TreeSet<>());
+            check.is("rule 11: calls at most eight deep, from " + method + ": " + depth, depth <= DEEPEST_CALL, true);
         }
     }
 
-    private static String withoutTextsAndComments(String source) {
-        return source.replaceAll("(?s)/\\*.*?\\*/", "").replaceAll("//[^\n]*", "")
-                .replaceAll("\"[^\"\n]*\"", "\"\"");
+    private static int depth(Map<String, Set<String>> calls, Map<String, Integer> depths, String method, Set<String> open) {
+        if (depths.containsKey(method)) {
+            return depths.get(method);
+        }
+        if (!open.add(method)) {
+            return DEEPEST_CALL + 1;
+        }
+        int deepest = 0;
+        for (String called : calls.getOrDefault(method, Set.of())) {
+            deepest = Math.max(deepest, depth(calls, depths, called, open));
+        }
+        open.remove(method);
+        depths.put(method, deepest + 1);
+        return deepest + 1;
     }
 }

@@ -301,7 +301,7 @@ final class StateBounds {
     }
 
     private void digestOfAll() {
-        b.says(28, "with the overflow of long arithmetic ignored");
+        b.says(28, "Returns the hash, with the overflow of long arithmetic ignored.");
         b.is("the most of everything", Recipes.full().digest(), new Hash(Recipes::full, 120, 4).value());
         b.is("something of everything", Recipes.busy().digest(), new Hash(Recipes::busy, 8, 4).value());
         b.is("too late", Recipes.tooLate().digest(), new Hash(Recipes::tooLate, 0, 4).value());

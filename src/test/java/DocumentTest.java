@@ -3,12 +3,13 @@ import java.nio.file.Files;
 import java.nio.file.Path;
 
 /**
- * The boundary cases of promises 1 to 28. Each test names the promise and the words of the document
- * that it holds the class to; words that don't stand there, and sentences that name a boundary case
- * and that no test quotes, are faults too. Arguments: TokenBus.java, DOC.md.
+ * The document from its first line to its last. Each test names the promise and the words of the
+ * document that it holds the class to; words that don't stand there, and words of the document that no
+ * test quotes, are faults too. The boundary cases stand in the classes named ..Bounds, what is left in
+ * PlainSentences. Arguments: TokenBus.java, DOC.md.
  */
-public final class BoundaryTest {
-    private BoundaryTest() {
+public final class DocumentTest {
+    private DocumentTest() {
     }
 
     public static void main(String[] args) throws Exception {
@@ -26,6 +27,7 @@ public final class BoundaryTest {
         new WhatIfBounds(bounds).all();
         new TextBounds(bounds).all();
         new StateBounds(bounds).all();
+        new PlainSentences(bounds).all();
         for (int promise = 1; promise <= Sentences.PROMISES; promise++) {
             check.is("a test names promise " + promise, bounds.names(promise), true);
         }
