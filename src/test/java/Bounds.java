@@ -1,6 +1,6 @@
 import java.util.NoSuchElementException;
 
-/** What the tests of boundary cases share: the sentence that is looked at, and refused calls. */
+/** What the tests of the document share: the sentence that is looked at, and refused calls. */
 final class Bounds {
     static final int NONE = -1;
     static final int LOWEST = Integer.MIN_VALUE;
